@@ -219,6 +219,7 @@ public final class CellsTest {
         c.due("the last value too high", x.putSlab(0, 32757, 1), SlabImage.RANGE);
         c.due("the last value too low", x.putSlab(0, -32758, -1), SlabImage.RANGE);
         c.due("one in between", x.putSlab(0, 0, 1 << 29), SlabImage.RANGE);
+        c.due("the first value alone", x.putSlab(0, 32768, -1), SlabImage.RANGE);
         c.due("nothing was put", x.get(0, 0, 0), -32767);
         c.due("the highest that fit", x.putSlab(0, 32756, 1), 12);
         c.due("the last of them", x.get(0, 2, 3), 32767);

@@ -19,6 +19,7 @@ public final class ImageTest {
         check.promise(20, ImageTest::openRefusesWrongCounts);
         check.promise(20, ImageTest::openOfOneRecordVariable);
         check.promise(20, ImageTest::openLimits);
+        check.promise(20, ImageTest::openOneAfterTheOther);
         check.end();
     }
 
@@ -404,5 +405,45 @@ public final class ImageTest {
         c.due("fill where the other store had cells", x.get(0, 5, 1), -127);
         c.due("the first store again", Bytes.open(x, row.all()), 800);
         c.due("its last record", x.get(0, 719, 0), (byte) 719);
+    }
+
+    /** As many of all things as there may be: four dimensions, and five record variables with three records. */
+    private static int[] crowded() {
+        Bytes row = new Bytes().start(3)
+                .words(10, 4).name('a').words(2).name('t').words(0).name('c').words(8).name('d').words(1)
+                .words(12, 3).name('x').words(1, 2).bytes(1, 2, 0, 0).name('y').words(2, 2).bytes(3, 4, 0, 0)
+                .name('z').words(3, 2).bytes(5, 6, 7, 8).words(11, 5);
+        for (int v = 0; v < 5; v++) {
+            row.name('A' + v).words(2, 1, 0).words(12, 1).name('u').words(4, 2, v, -v).words(1, 4, 460 + 4 * v);
+        }
+        for (int k = 0; k < 15; k++) {
+            row.bytes(k, -k, 0, 0);
+        }
+        return row.all();
+    }
+
+    /** Nothing of a store that was there, or that was refused, is left in the next one. */
+    private static void openOneAfterTheOther(Check c) {
+        int[] crowded = crowded();
+        int[] refused = crowded();
+        refused[refused.length - 1] = 1;
+        int[] empty = new Bytes().start(0).words(0, 0, 0, 0, 0, 0).all();
+        int[][] rows = {crowded, crowded, empty, empty, scalars("ABCDE"), refused, scalars("XY"),
+            attributes(3, "abc"), attributes(1, "c"), crowded, full().all(), oneGrowing(5, 2, 0, 1, 15)};
+        SlabImage alone = new SlabImage();
+        c.due("a crowded one", Bytes.open(alone, crowded), 520);
+        c.dueImage("a crowded one", alone, crowded);
+        c.due("its last cell", alone.get(4, 2, 1), -14);
+        SlabImage x = new SlabImage();
+        int[] last = empty;
+        for (int k = 0; k < rows.length; k++) {
+            boolean right = rows[k] != refused;
+            c.due("image " + k, Bytes.open(x, rows[k]), right ? rows[k].length : SlabImage.MALFORMED);
+            last = right ? rows[k] : last;
+            c.due("size() of " + k, x.size(), last.length);
+            if (k == 6 || k == 11) {
+                c.dueImage("image " + k, x, last);
+            }
+        }
     }
 }
