@@ -393,7 +393,7 @@ public final class SlabImage {
         int takeNumber(int width) {
             int x = 0;
             for (int k = 0; k < width; k++) {
-                x = x << 8 | at(cursor);
+                x = x << 8 | (cursor < length ? bytes[cursor] & 255 : 0);
                 cursor++;
             }
             return x;
