@@ -23,6 +23,15 @@ final class Bytes {
         return words(1).bytes(name, 0, 0, 0);
     }
 
+    Bytes attribute(int name, int type, int x, int y) {
+        name(name).words(type, 2);
+        return switch (type) {
+            case 3 -> bytes(x >> 8, x, y >> 8, y);
+            case 4 -> words(x, y);
+            default -> bytes(x, y, 0, 0);
+        };
+    }
+
     Bytes start(int records) {
         return bytes(71, 82, 68, 1).words(records);
     }

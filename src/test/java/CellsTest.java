@@ -1,4 +1,4 @@
-/** Promises 9 to 14: cells, slabs and records. */
+/** Promises 9 to 14 in ordinary runs: cells, slabs and records. Their edges stand in CellEdgesTest. */
 public final class CellsTest {
     private static final int MIN = Integer.MIN_VALUE;
     private static final int MAX = Integer.MAX_VALUE;
@@ -6,13 +6,11 @@ public final class CellsTest {
     public static void main(String[] args) {
         Check check = new Check();
         check.promise(9, CellsTest::put);
-        check.promise(9, CellsTest::putRanges);
         check.promise(9, CellsTest::putGrows);
         check.promise(9, CellsTest::putUntilFull);
         check.promise(10, CellsTest::get);
         check.promise(11, CellsTest::select);
         check.promise(12, CellsTest::putSlab);
-        check.promise(12, CellsTest::putSlabRefusals);
         check.promise(12, CellsTest::putSlabGrows);
         check.promise(13, CellsTest::getSlab);
         check.promise(14, CellsTest::records);
@@ -65,27 +63,6 @@ public final class CellsTest {
         c.due("put of the lone cell", x.put(1, 0, 0, 127), 0);
         c.due("put of it again", x.put(1, 0, 0, -128), 0);
         c.due("the lone cell", x.get(1, 0, 0), -128);
-    }
-
-    private static void putRanges(Check c) {
-        SlabImage x = new SlabImage();
-        for (int type = 1; type <= 4; type++) {
-            x.variable('A' + type, type, -1, -1);
-        }
-        x.seal();
-        int[] least = {-128, 0, -32768, MIN};
-        int[] greatest = {127, 255, 32767, MAX};
-        for (int v = 0; v < 4; v++) {
-            c.due("least of " + v, x.put(v, 0, 0, least[v]), 0);
-            c.due("least", x.get(v, 0, 0), least[v]);
-            c.due("greatest of " + v, x.put(v, 0, 0, greatest[v]), 0);
-            c.due("greatest", x.get(v, 0, 0), greatest[v]);
-            if (v < 3) {
-                c.due("too low for " + v, x.put(v, 0, 0, least[v] - 1), SlabImage.RANGE);
-                c.due("too high for " + v, x.put(v, 0, 0, greatest[v] + 1), SlabImage.RANGE);
-                c.due("still the greatest", x.get(v, 0, 0), greatest[v]);
-            }
-        }
     }
 
     private static void putGrows(Check c) {
@@ -203,36 +180,6 @@ public final class CellsTest {
         for (int k = 0; k < 64; k++) {
             c.due("wrapped " + k, y.get(0, k / 8, k % 8), MAX + k * MAX);
         }
-    }
-
-    private static void putSlabRefusals(Check c) {
-        SlabImage x = mixed();
-        c.due("no variable 4", x.putSlab(4, 0, 0), SlabImage.NOTHING);
-        c.due("no variable -1", x.putSlab(-1, 0, 0), SlabImage.NOTHING);
-        x.select(0, 1, 3, 1);
-        c.due("the last i is outside", x.putSlab(0, 0, 0), SlabImage.OUTSIDE);
-        c.due("OUTSIDE before RANGE", x.putSlab(0, 99999, 0), SlabImage.OUTSIDE);
-        x.select(0, 0, 3, 1);
-        x.select(1, 1, 4, 1);
-        c.due("the last j is outside", x.putSlab(0, 0, 0), SlabImage.OUTSIDE);
-        x.select(1, 0, 4, 1);
-        c.due("the last value too high", x.putSlab(0, 32757, 1), SlabImage.RANGE);
-        c.due("the last value too low", x.putSlab(0, -32758, -1), SlabImage.RANGE);
-        c.due("one in between", x.putSlab(0, 0, 1 << 29), SlabImage.RANGE);
-        c.due("the first value alone", x.putSlab(0, 32768, -1), SlabImage.RANGE);
-        c.due("nothing was put", x.get(0, 0, 0), -32767);
-        c.due("the highest that fit", x.putSlab(0, 32756, 1), 12);
-        c.due("the last of them", x.get(0, 2, 3), 32767);
-        c.due("a record's j outside", x.putSlab(2, 0, 0), SlabImage.OUTSIDE);
-        x.select(1, 0, 3, 1);
-        x.select(0, MAX, 8, 8);
-        c.due("RANGE before TOOBIG", x.putSlab(2, 250, 1), SlabImage.RANGE);
-        c.due("TOOBIG", x.putSlab(2, 0, 0), SlabImage.TOOBIG);
-        c.due("nothing grew", x.records(), 0);
-        c.due("a fixed one is OUTSIDE", x.putSlab(0, 0, 0), SlabImage.OUTSIDE);
-        c.due("one without axes is not", x.putSlab(1, 0, 0), 1);
-        x.redefine();
-        c.due("DEFINING", x.putSlab(9, 0, 0), SlabImage.MODE);
     }
 
     private static void putSlabGrows(Check c) {

@@ -1,6 +1,5 @@
-/** Promises 1 to 8: what is defined, and when. */
+/** Promises 1 to 8 in ordinary runs: what is defined, and when. Their edges stand in DefinitionEdgesTest. */
 public final class DefinitionsTest {
-    private static final int MIN = Integer.MIN_VALUE;
     private static final int MAX = Integer.MAX_VALUE;
 
     public static void main(String[] args) {
@@ -8,15 +7,12 @@ public final class DefinitionsTest {
         check.promise(1, DefinitionsTest::newObject);
         check.promise(2, DefinitionsTest::dimension);
         check.promise(3, DefinitionsTest::variable);
-        check.promise(3, DefinitionsTest::variableRefusals);
         check.promise(4, DefinitionsTest::attribute);
-        check.promise(4, DefinitionsTest::attributeRanges);
         check.promise(5, DefinitionsTest::drop);
         check.promise(6, DefinitionsTest::rename);
         check.promise(7, DefinitionsTest::seal);
         check.promise(7, DefinitionsTest::sealTooBig);
         check.promise(8, DefinitionsTest::redefine);
-        check.promise(8, DefinitionsTest::modes);
         check.end();
     }
 
@@ -94,33 +90,6 @@ public final class DefinitionsTest {
         c.due("in DATA", x.variable('F', 1, -1, -1), SlabImage.MODE);
     }
 
-    private static void variableRefusals(Check c) {
-        SlabImage x = new SlabImage();
-        x.dimension('a', 2);
-        x.dimension('t', 0);
-        c.due("name 32", x.variable(32, 1, 0, 0), SlabImage.BAD);
-        c.due("name 127", x.variable(127, 1, 0, 0), SlabImage.BAD);
-        c.due("type 0", x.variable('A', 0, 0, 0), SlabImage.BAD);
-        c.due("type 5", x.variable('A', 5, 0, 0), SlabImage.BAD);
-        c.due("type MIN", x.variable('A', MIN, 0, 0), SlabImage.BAD);
-        c.due("BAD before NOTHING", x.variable('A', 5, 9, 9), SlabImage.BAD);
-        c.due("a is no dimension", x.variable('A', 1, 2, -1), SlabImage.NOTHING);
-        c.due("a is -2", x.variable('A', 1, -2, -1), SlabImage.NOTHING);
-        c.due("b is no dimension", x.variable('A', 1, 0, 2), SlabImage.NOTHING);
-        c.due("b is -2", x.variable('A', 1, 0, -2), SlabImage.NOTHING);
-        c.due("a is MAX", x.variable('A', 1, MAX, -1), SlabImage.NOTHING);
-        c.due("b without a", x.variable('A', 1, -1, 0), SlabImage.NOTHING);
-        c.due("growing b without a", x.variable('A', 1, -1, 1), SlabImage.NOTHING);
-        c.due("growing b, a is none", x.variable('A', 1, 2, 1), SlabImage.NOTHING);
-        c.due("growing b", x.variable('A', 1, 0, 1), SlabImage.BAD);
-        c.due("growing a and b", x.variable('A', 1, 1, 1), SlabImage.BAD);
-        c.due("the first", x.variable('A', 1, 0, -1), 0);
-        c.due("NOTHING before TAKEN", x.variable('A', 1, 5, -1), SlabImage.NOTHING);
-        c.due("growing b before TAKEN", x.variable('A', 1, 0, 1), SlabImage.BAD);
-        c.due("taken", x.variable('A', 4, -1, -1), SlabImage.TAKEN);
-        c.due("the name of a dimension", x.variable('a', 4, -1, -1), 1);
-    }
-
     private static void attribute(Check c) {
         SlabImage x = new SlabImage();
         x.variable('A', 1, -1, -1);
@@ -148,24 +117,6 @@ public final class DefinitionsTest {
                 .name('c').words(4, 2, 1, -1)
                 .words(11, 1).name('A').words(0).words(12, 1).name('a').words(2, 2).bytes(7, 8, 0, 0)
                 .words(1, 4, 148).bytes(-127, 0, 0, 0).all());
-    }
-
-    private static void attributeRanges(Check c) {
-        int[] least = {-128, 0, -32768, MIN};
-        int[] greatest = {127, 255, 32767, MAX};
-        for (int type = 1; type <= 4; type++) {
-            int low = least[type - 1];
-            int high = greatest[type - 1];
-            SlabImage x = new SlabImage();
-            c.due("bounds of type " + type, x.attribute(-1, 'a', type, low, high), 0);
-            c.due("bounds turned", x.attribute(-1, 'a', type, high, low), 0);
-            if (type < 4) {
-                c.due("x below", x.attribute(-1, 'a', type, low - 1, high), SlabImage.RANGE);
-                c.due("x above", x.attribute(-1, 'a', type, high + 1, high), SlabImage.RANGE);
-                c.due("y below", x.attribute(-1, 'a', type, low, low - 1), SlabImage.RANGE);
-                c.due("y above", x.attribute(-1, 'a', type, low, high + 1), SlabImage.RANGE);
-            }
-        }
     }
 
     private static void drop(Check c) {
@@ -282,26 +233,5 @@ public final class DefinitionsTest {
         c.due("fill in an old record", x.get(3, 2, 2), -2147483647);
         c.due("fill of TEXT there", x.get(2, 0, 0), 0);
         c.due("no record 3", x.get(3, 3, 2), SlabImage.NOVALUE);
-    }
-
-    private static void modes(Check c) {
-        SlabImage x = new SlabImage();
-        x.variable('A', 1, -1, -1);
-        c.due("put", x.put(0, 0, 0, 1), SlabImage.MODE);
-        c.due("put without variable", x.put(7, 0, 0, 1), SlabImage.MODE);
-        c.due("get", x.get(0, 0, 0), SlabImage.NOVALUE);
-        c.due("putSlab", x.putSlab(0, 1, 1), SlabImage.MODE);
-        c.due("getSlab", x.getSlab(0, 0), SlabImage.NOVALUE);
-        c.due("begin", x.begin(0), SlabImage.MODE);
-        c.due("begin without variable", x.begin(7), SlabImage.MODE);
-        c.due("size", x.size(), SlabImage.MODE);
-        c.due("eight", x.eight(0), 0);
-        c.due("select", x.select(0, 0, 1, 1), 0);
-        c.due("records", x.records(), 0);
-        c.due("add", x.add(0, 1), true);
-        x.seal();
-        c.due("nothing was put", x.get(0, 0, 0), -127);
-        c.due("select in DATA", x.select(0, 0, 1, 1), 0);
-        c.due("add in DATA", x.add(0, 1), true);
     }
 }

@@ -1,6 +1,6 @@
 import java.util.Arrays;
 
-/** Promises 15 to 20: the image, the draft, and taking over an image. */
+/** Promises 15 to 20 in ordinary runs: image, draft, and taking over an image. Their edges stand in ImageEdgesTest. */
 public final class ImageTest {
     private static final int MAX = Integer.MAX_VALUE;
 
@@ -16,7 +16,6 @@ public final class ImageTest {
         check.promise(20, ImageTest::open);
         check.promise(20, ImageTest::openKeeps);
         check.promise(20, ImageTest::openWithOneOtherByte);
-        check.promise(20, ImageTest::openRefusesWrongCounts);
         check.promise(20, ImageTest::openOfOneRecordVariable);
         check.promise(20, ImageTest::openLimits);
         check.promise(20, ImageTest::openOneAfterTheOther);
@@ -296,96 +295,26 @@ public final class ImageTest {
         }
     }
 
-    private static void openRefusesWrongCounts(Check c) {
-        String[] what = {
-            "records without record variable", "records below 0", "kind 10 of no dimensions",
-            "kind 12 of no attributes", "kind 11 of no variables", "kind 0 of one dimension",
-            "kind 11 of dimensions", "length 9", "length -1", "two growing dimensions",
-            "two dimensions of one name", "five dimensions", "-1 dimensions"};
-        int[][] row = {
-            new Bytes().start(1).words(0, 0, 0, 0, 0, 0).all(),
-            new Bytes().start(-1).words(0, 0, 0, 0, 0, 0).all(),
-            new Bytes().start(0).words(10, 0, 0, 0, 0, 0).all(),
-            new Bytes().start(0).words(0, 0, 12, 0, 0, 0).all(),
-            new Bytes().start(0).words(0, 0, 0, 0, 11, 0).all(),
-            new Bytes().start(0).words(0, 1).name('a').words(1).words(0, 0, 0, 0).all(),
-            new Bytes().start(0).words(11, 1).name('a').words(1).words(0, 0, 0, 0).all(),
-            new Bytes().start(0).words(10, 1).name('a').words(9).words(0, 0, 0, 0).all(),
-            new Bytes().start(0).words(10, 1).name('a').words(-1).words(0, 0, 0, 0).all(),
-            new Bytes().start(0).words(10, 2).name('a').words(0).name('b').words(0).words(0, 0, 0, 0).all(),
-            new Bytes().start(0).words(10, 2).name('a').words(1).name('a').words(2).words(0, 0, 0, 0).all(),
-            new Bytes().start(0).words(10, 5).name('a').words(1).name('b').words(1).name('c').words(1)
-                    .name('d').words(1).name('e').words(1).words(0, 0, 0, 0).all(),
-            new Bytes().start(0).words(10, -1, 0, 0, 0, 0).all()};
-        for (int k = 0; k < row.length; k++) {
-            c.due(what[k], Bytes.open(new SlabImage(), row[k]), SlabImage.MALFORMED);
-        }
-        c.due("an attribute list of four", Bytes.open(new SlabImage(), attributes(4, "abcd")), SlabImage.MALFORMED);
-        c.due("one of three", Bytes.open(new SlabImage(), attributes(3, "abc")), 92);
-        c.due("one name twice", Bytes.open(new SlabImage(), attributes(3, "aba")), SlabImage.MALFORMED);
-        c.due("-1 attributes", Bytes.open(new SlabImage(), attributes(-1, "")), SlabImage.MALFORMED);
-        c.due("six variables", Bytes.open(new SlabImage(), scalars("ABCDEF")), SlabImage.MALFORMED);
-        c.due("five variables", Bytes.open(new SlabImage(), scalars("ABCDE")), 32 + 5 * 36);
-        c.due("a name twice", Bytes.open(new SlabImage(), scalars("ABCDA")), SlabImage.MALFORMED);
-        c.due("a name 32", Bytes.open(new SlabImage(), scalars("AB ")), SlabImage.MALFORMED);
-    }
-
-    private static int[] attributes(int told, String names) {
-        Bytes row = new Bytes().start(0).words(0, 0, 12, told);
-        for (char name : names.toCharArray()) {
-            row.name(name).words(3, 2, 65536 * 7 + 8);
-        }
-        return row.words(0, 0).all();
-    }
-
-    private static int[] scalars(String names) {
-        Bytes row = new Bytes().start(0).words(0, 0, 0, 0, 11, names.length());
-        int data = 32 + 32 * names.length();
-        for (int k = 0; k < names.length(); k++) {
-            row.name(names.charAt(k)).words(0, 0, 0, 4, 4, data + 4 * k);
-        }
-        for (int k = 0; k < names.length(); k++) {
-            row.words(k);
-        }
-        return row.all();
-    }
-
-    private static int[] oneGrowing(int records, int axes, int a, int b, int cells) {
-        Bytes row = new Bytes().start(records).words(10, 2).name('t').words(0).name('a').words(3)
-                .words(0, 0, 11, 1).name('A').words(axes);
-        if (axes > 0) {
-            row.words(a);
-        }
-        if (axes > 1) {
-            row.words(b);
-        }
-        row.words(0, 0, 1, 4, 84 + 4 * axes + 4);
-        for (int k = 0; k < cells; k++) {
-            row.bytes(k + 1);
-        }
-        return row.all();
-    }
-
     private static void openOfOneRecordVariable(Check c) {
         SlabImage x = new SlabImage();
-        c.due("five records of three bytes", Bytes.open(x, oneGrowing(5, 2, 0, 1, 15)), 111);
+        c.due("five records of three bytes", Bytes.open(x, Images.oneGrowing(5, 2, 0, 1, 15)), 111);
         c.due("the last cell", x.get(0, 4, 2), 15);
         c.due("a cell", x.get(0, 1, 0), 4);
-        c.dueImage("the same image", x, oneGrowing(5, 2, 0, 1, 15));
-        c.due("a byte too few", Bytes.open(x, oneGrowing(5, 2, 0, 1, 14)), SlabImage.MALFORMED);
-        c.due("a byte too many", Bytes.open(x, oneGrowing(5, 2, 0, 1, 16)), SlabImage.MALFORMED);
-        c.due("a record too many", Bytes.open(x, oneGrowing(4, 2, 0, 1, 15)), SlabImage.MALFORMED);
-        c.due("padded records", Bytes.open(x, oneGrowing(5, 2, 0, 1, 20)), SlabImage.MALFORMED);
-        c.due("a number of records that wraps", Bytes.open(x, oneGrowing(MAX, 2, 0, 1, 15)), SlabImage.MALFORMED);
-        c.due("below 0", Bytes.open(x, oneGrowing(-5, 2, 0, 1, 15)), SlabImage.MALFORMED);
-        c.due("one axis", Bytes.open(x, oneGrowing(5, 1, 0, 0, 5)), 97);
-        c.due("a second axis that grows", Bytes.open(x, oneGrowing(5, 2, 0, 0, 5)), SlabImage.MALFORMED);
-        c.due("only the second grows", Bytes.open(x, oneGrowing(0, 2, 1, 0, 0)), SlabImage.MALFORMED);
-        c.due("no dimension 2", Bytes.open(x, oneGrowing(0, 1, 2, 0, 0)), SlabImage.MALFORMED);
-        c.due("no dimension -1", Bytes.open(x, oneGrowing(0, 1, -1, 0, 4)), SlabImage.MALFORMED);
-        c.due("no second dimension -1", Bytes.open(x, oneGrowing(5, 2, 0, -1, 5)), SlabImage.MALFORMED);
-        c.due("three axes", Bytes.open(x, oneGrowing(0, 3, 0, 1, 0)), SlabImage.MALFORMED);
-        c.due("-1 axes", Bytes.open(x, oneGrowing(0, -1, 0, 1, 0)), SlabImage.MALFORMED);
+        c.dueImage("the same image", x, Images.oneGrowing(5, 2, 0, 1, 15));
+        c.due("a byte too few", Bytes.open(x, Images.oneGrowing(5, 2, 0, 1, 14)), SlabImage.MALFORMED);
+        c.due("a byte too many", Bytes.open(x, Images.oneGrowing(5, 2, 0, 1, 16)), SlabImage.MALFORMED);
+        c.due("a record too many", Bytes.open(x, Images.oneGrowing(4, 2, 0, 1, 15)), SlabImage.MALFORMED);
+        c.due("padded records", Bytes.open(x, Images.oneGrowing(5, 2, 0, 1, 20)), SlabImage.MALFORMED);
+        c.due("a number of records that wraps", Bytes.open(x, Images.oneGrowing(MAX, 2, 0, 1, 15)), SlabImage.MALFORMED);
+        c.due("below 0", Bytes.open(x, Images.oneGrowing(-5, 2, 0, 1, 15)), SlabImage.MALFORMED);
+        c.due("one axis", Bytes.open(x, Images.oneGrowing(5, 1, 0, 0, 5)), 97);
+        c.due("a second axis that grows", Bytes.open(x, Images.oneGrowing(5, 2, 0, 0, 5)), SlabImage.MALFORMED);
+        c.due("only the second grows", Bytes.open(x, Images.oneGrowing(0, 2, 1, 0, 0)), SlabImage.MALFORMED);
+        c.due("no dimension 2", Bytes.open(x, Images.oneGrowing(0, 1, 2, 0, 0)), SlabImage.MALFORMED);
+        c.due("no dimension -1", Bytes.open(x, Images.oneGrowing(0, 1, -1, 0, 4)), SlabImage.MALFORMED);
+        c.due("no second dimension -1", Bytes.open(x, Images.oneGrowing(5, 2, 0, -1, 5)), SlabImage.MALFORMED);
+        c.due("three axes", Bytes.open(x, Images.oneGrowing(0, 3, 0, 1, 0)), SlabImage.MALFORMED);
+        c.due("-1 axes", Bytes.open(x, Images.oneGrowing(0, -1, 0, 1, 0)), SlabImage.MALFORMED);
         c.due("the last that opened", x.size(), 97);
     }
 
@@ -400,7 +329,7 @@ public final class ImageTest {
         c.due("the last record", x.get(0, 719, 0), (byte) 719);
         c.due("one more", x.put(0, 720, 0, 0), SlabImage.TOOBIG);
         c.dueImage("the same image", x, row.all());
-        c.due("a smaller store", Bytes.open(x, oneGrowing(1, 2, 0, 1, 3)), 99);
+        c.due("a smaller store", Bytes.open(x, Images.oneGrowing(1, 2, 0, 1, 3)), 99);
         c.due("grows by fill values", x.put(0, 9, 0, 1), 0);
         c.due("fill where the other store had cells", x.get(0, 5, 1), -127);
         c.due("the first store again", Bytes.open(x, row.all()), 800);
@@ -427,9 +356,10 @@ public final class ImageTest {
         int[] crowded = crowded();
         int[] refused = crowded();
         refused[refused.length - 1] = 1;
-        int[] empty = new Bytes().start(0).words(0, 0, 0, 0, 0, 0).all();
-        int[][] rows = {crowded, crowded, empty, empty, scalars("ABCDE"), refused, scalars("XY"),
-            attributes(3, "abc"), attributes(1, "c"), crowded, full().all(), oneGrowing(5, 2, 0, 1, 15)};
+        int[] empty = Images.empty();
+        int[][] rows = {crowded, crowded, empty, empty, Images.scalars("ABCDE"), refused, Images.scalars("XY"),
+            Images.storeAttributes(3, "abc"), Images.storeAttributes(1, "c"), crowded, full().all(),
+            Images.oneGrowing(5, 2, 0, 1, 15)};
         SlabImage alone = new SlabImage();
         c.due("a crowded one", Bytes.open(alone, crowded), 520);
         c.dueImage("a crowded one", alone, crowded);
