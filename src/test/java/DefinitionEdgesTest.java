@@ -2,18 +2,23 @@
 public final class DefinitionEdgesTest {
     private static final int MIN = Integer.MIN_VALUE;
     private static final int MAX = Integer.MAX_VALUE;
+    private static final int[] NO_NAMES = {MIN, -1, 0, 10, 32, 127, 128, 255, 256 + 'z', 65536 + 'z', MAX};
+    private static final int[] NO_TYPES = {MIN, -1, 0, 5, 256 + 1, 65536 + 4, MAX};
 
     public static void main(String[] args) {
         Check check = new Check();
         check.sentence("1: without dimensions, variables and attributes", DefinitionEdgesTest::newStore);
         check.sentence("1: both selections are start 0, count 1, stride 1", DefinitionEdgesTest::newSelections);
         check.sentence("1: the draft has no bytes", DefinitionEdgesTest::newDraft);
+        check.sentence("2: BAD when name is not 33 .. 126", DefinitionEdgesTest::noNameOfDimension);
         check.sentence("2: BAD when length is not 0 .. 8", DefinitionEdgesTest::lengths);
         check.sentence("2: TAKEN when a dimension has that name", DefinitionEdgesTest::dimensionTaken);
         check.sentence("2: FULL when there are four", DefinitionEdgesTest::fourDimensions);
         check.sentence("2: FULL when length is 0 and there is a growing one", DefinitionEdgesTest::secondGrowing);
         check.sentence("3: no axis when a and b are -1, one when b alone is -1", DefinitionEdgesTest::axisCounts);
         check.sentence("3: all its cells hold the fill value", DefinitionEdgesTest::fillValues);
+        check.sentence("3: BAD when name is not 33 .. 126", DefinitionEdgesTest::noNameOfVariable);
+        check.sentence("3: BAD when type is not 1 .. 4", DefinitionEdgesTest::noTypeOfVariable);
         check.sentence("3: NOTHING when a or b is neither -1 nor a dimension", DefinitionEdgesTest::noDimension);
         check.sentence("3: NOTHING when a is -1 and b is not", DefinitionEdgesTest::secondAxisAlone);
         check.sentence("3: BAD when b is the growing dimension", DefinitionEdgesTest::growingSecondAxis);
@@ -22,11 +27,15 @@ public final class DefinitionEdgesTest {
         check.sentence("4: in its place", DefinitionEdgesTest::attributeInPlace);
         check.sentence("4: a new one at the end of the list", DefinitionEdgesTest::attributeAtEnd);
         check.sentence("4: NOTHING when v is neither -1 nor a variable", DefinitionEdgesTest::noListOfAttribute);
+        check.sentence("4: BAD when name is not 33 .. 126", DefinitionEdgesTest::noNameOfAttribute);
+        check.sentence("4: BAD when type is not 1 .. 4", DefinitionEdgesTest::noTypeOfAttribute);
+        check.sentence("4: RANGE when x or y is no value of the type", DefinitionEdgesTest::attributeRange);
         check.sentence("4: FULL when a new one is needed and there are three", DefinitionEdgesTest::threeAttributes);
         check.sentence("5: those behind it move up", DefinitionEdgesTest::dropMovesUp);
         check.sentence("5: NOTHING when v is neither -1 nor a variable", DefinitionEdgesTest::noListOfDrop);
         check.sentence("5: NOTHING when there is none with that name", DefinitionEdgesTest::noneToDrop);
         check.sentence("6: NOTHING when there is none", DefinitionEdgesTest::noneToRename);
+        check.sentence("6: BAD when name is not 33 .. 126", DefinitionEdgesTest::renameToNoName);
         check.sentence("6: TAKEN when another one of them has that name", DefinitionEdgesTest::renameTaken);
         check.sentence("6: its own name is not taken by another one", DefinitionEdgesTest::renameToOwnName);
         check.sentence("7: answers the number of bytes of the image", DefinitionEdgesTest::sealAnswers);
@@ -70,6 +79,14 @@ public final class DefinitionEdgesTest {
             y.add((long) row[k] << 56, 1);
         }
         c.due("open() of what was added", y.open(), 32);
+    }
+
+    private static void noNameOfDimension(Check c) {
+        for (int name : NO_NAMES) {
+            c.refused("dimension " + name, Sample::defining, x -> x.dimension(name, 1), SlabImage.BAD);
+        }
+        c.due("the lowest", Sample.defining().dimension(33, 1), 3);
+        c.due("the highest", Sample.defining().dimension(126, 1), 3);
     }
 
     private static void lengths(Check c) {
@@ -193,6 +210,23 @@ public final class DefinitionEdgesTest {
         }
     }
 
+    private static void noNameOfVariable(Check c) {
+        for (int name : NO_NAMES) {
+            c.refused("variable " + name, Sample::defining, x -> x.variable(name, 1, -1, -1), SlabImage.BAD);
+        }
+        c.due("the lowest", Sample.defining().variable(33, 1, -1, -1), 4);
+        c.due("the highest", Sample.defining().variable(126, 1, -1, -1), 4);
+    }
+
+    private static void noTypeOfVariable(Check c) {
+        for (int type : NO_TYPES) {
+            c.refused("type " + type, Sample::defining, x -> x.variable('z', type, 0, -1), SlabImage.BAD);
+        }
+        for (int type = 1; type <= 4; type++) {
+            c.due("type " + type, Sample.defining().variable('z', type, 0, -1), 4);
+        }
+    }
+
     private static void noDimension(Check c) {
         for (int k : new int[] {MIN, -3, -2, 3, 4, MAX}) {
             c.refused("a is " + k, Sample::defining, x -> x.variable('z', 1, k, -1), SlabImage.NOTHING);
@@ -312,6 +346,43 @@ public final class DefinitionEdgesTest {
         c.due("the store's", Sample.defining().attribute(-1, 'z', 1, 0, 0), 0);
     }
 
+    private static void noNameOfAttribute(Check c) {
+        for (int v = -1; v <= 0; v++) {
+            int list = v;
+            for (int name : NO_NAMES) {
+                c.refused("attribute " + name, Sample::defining, x -> x.attribute(list, name, 1, 0, 0), SlabImage.BAD);
+            }
+            c.due("the lowest", Sample.defining().attribute(v, 33, 1, 0, 0), 0);
+            c.due("the highest", Sample.defining().attribute(v, 126, 1, 0, 0), 0);
+        }
+    }
+
+    private static void noTypeOfAttribute(Check c) {
+        for (int type : NO_TYPES) {
+            c.refused("a new one", Sample::defining, x -> x.attribute(0, 'z', type, 0, 0), SlabImage.BAD);
+            c.refused("one that is there", Sample::defining, x -> x.attribute(-1, 'p', type, 0, 0), SlabImage.BAD);
+        }
+        for (int type = 1; type <= 4; type++) {
+            c.due("type " + type, Sample.defining().attribute(0, 'z', type, 0, 0), 0);
+        }
+    }
+
+    private static void attributeRange(Check c) {
+        int[] least = {0, -128, 0, -32768};
+        int[] greatest = {0, 127, 255, 32767};
+        for (int k = 1; k <= 3; k++) {
+            int type = k;
+            for (int value : new int[] {least[k] - 1, greatest[k] + 1, MIN, MAX}) {
+                c.refused("x of type " + k, Sample::defining, x -> x.attribute(-1, 'p', type, value, 1), SlabImage.RANGE);
+                c.refused("y of type " + k, Sample::defining, x -> x.attribute(-1, 'p', type, 1, value), SlabImage.RANGE);
+                c.refused("both", Sample::defining, x -> x.attribute(1, 'z', type, value, value), SlabImage.RANGE);
+            }
+            c.due("the least", Sample.defining().attribute(-1, 'p', k, least[k], least[k]), 0);
+            c.due("the greatest", Sample.defining().attribute(1, 'z', k, greatest[k], greatest[k]), 0);
+        }
+        c.due("any int", Sample.defining().attribute(-1, 'p', 4, MIN, MAX), 0);
+    }
+
     private static void threeAttributes(Check c) {
         for (int v = -1; v <= 1; v += 2) {
             int list = v;
@@ -375,6 +446,17 @@ public final class DefinitionEdgesTest {
         }
         c.due("the last variable", Sample.defining().rename(true, 3, 'z'), 0);
         c.due("the last dimension", Sample.defining().rename(false, 2, 'z'), 0);
+    }
+
+    private static void renameToNoName(Check c) {
+        for (int name : NO_NAMES) {
+            c.refused("a dimension to " + name, Sample::defining, x -> x.rename(false, 0, name), SlabImage.BAD);
+            c.refused("a variable to " + name, Sample::defining, x -> x.rename(true, 0, name), SlabImage.BAD);
+        }
+        for (boolean variable : new boolean[] {false, true}) {
+            c.due("to the lowest", Sample.defining().rename(variable, 0, 33), 0);
+            c.due("to the highest", Sample.defining().rename(variable, 0, 126), 0);
+        }
     }
 
     private static void renameTaken(Check c) {

@@ -22,6 +22,7 @@ public final class ImageEdgesTest {
         check.sentence("20: MALFORMED when bytes are missing", ImageEdgesTest::openShort);
         check.sentence("20: MALFORMED when there are more bytes", ImageEdgesTest::openLong);
         check.sentence("20: MALFORMED in DEFINING changes nothing either", ImageEdgesTest::openRefusedInDefining);
+        check.sentence("20: MALFORMED changes nothing of a store taken over before", ImageEdgesTest::openRefusedAfterOpen);
         check.sentence("20: the draft stays", ImageEdgesTest::draftStays);
         check.sentence("20: the selections stay", ImageEdgesTest::selectionsStay);
         check.end();
@@ -294,6 +295,22 @@ public final class ImageEdgesTest {
             c.refused("open()", () -> Sample.withDraft(Sample.defining(), row), SlabImage::open, SlabImage.MALFORMED);
             c.refused("open()", () -> Sample.withDraft(new SlabImage(), row), SlabImage::open, SlabImage.MALFORMED);
         }
+    }
+
+    private static void openRefusedAfterOpen(Check c) {
+        int[][] rows = {{}, Images.with(oddImage(), 3, 2), Images.with(Images.scalars("AB"), 63, 1),
+            Images.scalars("ABCDA"), Images.oneGrowing(3, 2, 0, 1, 8), Images.storeAttributes(3, "aba")};
+        for (int[] row : rows) {
+            c.refused("open() after one", () -> Sample.withDraft(odd(), row), SlabImage::open, SlabImage.MALFORMED);
+            c.refused("open() after two", () -> Sample.withDraft(twiceOpened(), row), SlabImage::open,
+                    SlabImage.MALFORMED);
+        }
+    }
+
+    private static SlabImage twiceOpened() {
+        SlabImage x = odd();
+        Bytes.open(x, Images.variableAttributes(2, "xy"));
+        return x;
     }
 
     private static void draftStays(Check c) {

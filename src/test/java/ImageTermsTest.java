@@ -18,10 +18,10 @@ public final class ImageTermsTest {
         check.sentence("one record variable among others", ImageTermsTest::oneAmongOthers);
         check.sentence("the padded size has the bytes 0 also when they are left out", ImageTermsTest::paddedSizes);
         check.sentence("the begin is where cells would start if there were a record", ImageTermsTest::beginWithoutRecord);
-        check.sentence("an image has at most 800 bytes: seal()", ImageTermsTest::mostBytesOfSeal);
-        check.sentence("an image has at most 800 bytes: put()", ImageTermsTest::mostBytesOfPut);
-        check.sentence("an image has at most 800 bytes: putSlab()", ImageTermsTest::mostBytesOfPutSlab);
-        check.sentence("an image has at most 800 bytes: open()", ImageTermsTest::mostBytesOfOpen);
+        check.sentence("at most 800 bytes; 7: TOOBIG when the image would have more", ImageTermsTest::mostBytesOfSeal);
+        check.sentence("at most 800 bytes; 9: TOOBIG when the image would have more", ImageTermsTest::mostBytesOfPut);
+        check.sentence("at most 800 bytes; 12: TOOBIG when the image would have more", ImageTermsTest::mostBytesOfPutSlab);
+        check.sentence("at most 800 bytes; 20: MALFORMED when there is no such store", ImageTermsTest::mostBytesOfOpen);
         check.sentence("the list with number -1 is the store's, that with number v variable v's", ImageTermsTest::lists);
         check.end();
     }

