@@ -28,12 +28,16 @@ public final class ReferenceTest {
         Check check = new Check();
         for (int run = 0; run < RUNS; run++) {
             ReferenceTest test = new ReferenceTest(check, run);
-            for (int k = 0; k < 300 && test.calls < CALLS - 110; k++) {
-                test.call();
-            }
-            test.wholeImage();
+            check.sentence("the document as Reference tells it, run " + run, c -> test.whole());
         }
         check.end();
+    }
+
+    private void whole() {
+        for (int k = 0; k < 300 && calls < CALLS - 110; k++) {
+            call();
+        }
+        wholeImage();
     }
 
     private int edge() {
